@@ -33,6 +33,8 @@ public final class OutputTest {
         Lampboard x = Desks.withLamps(1);
         Check.same("nothing", x.outputBits(0, 0), 0);
         for (int value = 0; value <= 255; value++) {
+            // A desk is used for 512 calls at the most.
+            x = value == 128 ? Desks.withLamps(1) : x;
             x.set(0, 0, value);
             Check.same("bits of " + value, x.outputBits(0, 0), Float.floatToIntBits(value));
         }

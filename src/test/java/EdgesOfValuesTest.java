@@ -12,6 +12,7 @@ public final class EdgesOfValuesTest {
         ofListsWithTheSame();
         eachMaster();
         theLatestFade();
+        ofEachLampAlike();
         withoutAny();
         lessThanZeroAndGreaterThanMost();
         behindThePoint();
@@ -289,6 +290,32 @@ public final class EdgesOfValuesTest {
             x.release(0);
             Check.same("the last one", x.output(0, attribute), 9);
         }
+    }
+
+    // "For an attribute of a lamp", whichever lamp it is
+    private static void ofEachLampAlike() {
+        Lampboard x = Desks.withGroup(12);
+        for (int list = 0; list < 3; list++) {
+            for (int attribute = 0; attribute < 4; attribute++) {
+                x.fan(0, attribute, 90 - 10 * list, 90 - 10 * list);
+            }
+            x.record(list);
+            x.setTimes(list, 0, 0, 4);
+            x.go(list);
+        }
+        x.pass(1);
+        for (int lamp = 0; lamp < 12; lamp++) {
+            Check.same("the greatest light of lamp " + lamp, x.decides(lamp, 0), 0);
+            Check.same("its value", Desks.shown(x, lamp, 0), 22.5);
+            for (int attribute = 1; attribute < 4; attribute++) {
+                Check.same("the latest attribute " + attribute + " of lamp " + lamp, x.decides(lamp, attribute), 2);
+                Check.same("its value", Desks.shown(x, lamp, attribute), attribute == 3 ? 70.0 : 17.5);
+            }
+        }
+        x.setMaster(0, 50);
+        Check.same("the next one, with the master, of the first lamp", x.decides(0, 0), 1);
+        Check.same("the next one, with the master, of the last lamp", x.decides(11, 0), 1);
+        Check.same("masters are for the light alone", Desks.shown(x, 11, 2), 17.5);
     }
 
     // "Without any, it is 0."

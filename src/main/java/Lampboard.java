@@ -481,9 +481,8 @@ public final class Lampboard {
             part = part * 2.0;
             exponent--;
         }
-        // What is still less than 1 here is too small for a float's leading one: its exponent counts 0.
-        int above = part < 1.0 ? 0 : (exponent - 1) << 23;
-        return above + (int) (part * 8388608.0);
+        // The part's leading one adds 1 to the exponent; a part still less than 1 is too small for one, and its exponent is 0.
+        return ((exponent - 1) << 23) + (int) (part * 8388608.0);
     }
 
     /** At most one entry for each slot: what the programmer has, and what a cue stores. */
